@@ -39,7 +39,6 @@ public final class FlashLevels {
     private static final int MOST_SHIFT = 60;
     private static final int MOST_SAVED = 6;
 
-    private static final int READS = 3;
     private static final int FIRST_MATCH_PROPERTY = 10;
 
     private static final int REFUSED = 0;
@@ -202,7 +201,7 @@ public final class FlashLevels {
             case 0: return p.status;
             case 1: return p.status == ERASED ? NONE : memory.hours - p.writtenAt;
             case 2: return p.status == WRITTEN ? p.favorite : NONE;
-            case READS: return p.reads;
+            case 3: return p.reads;
             case 4: return p.failedTries;
             case 5: return p.fees;
             case 6: return p.chargeSum();

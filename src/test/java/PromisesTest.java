@@ -543,6 +543,9 @@ public final class PromisesTest {
         Check.due("an erase that would throw", runText(x, "e1;e1;e0"), 1);
         Check.due("wear", x.count(3), 100);
         Check.due("wear of the other one", x.count(2), 0);
+        Check.due("which can be erased", runText(x, "e0;w0=00000001"), 2);
+        Check.due("wear of the other one", x.count(2), 1);
+        Check.due("data of the other one", x.data(0), 1);
     }
 
     private static void runRefuses() {
