@@ -1,13 +1,36 @@
+import java.util.HashSet;
+import java.util.Set;
+
 /** Compares answers with what is due, and counts those that are not. */
 final class Check {
     interface Call {
         long answer();
     }
 
+    private static final Set<String> NAMES = new HashSet<>();
+    private static String test = "";
     private static int checks = 0;
     private static int wrong = 0;
 
     private Check() {
+    }
+
+    /** A test with a name of its own, which is told with each check that fails in it. */
+    static void test(String name, Runnable body) {
+        if (!NAMES.add(name)) {
+            fail("two tests have the name " + name);
+        }
+        int before = checks;
+        test = name + ": ";
+        try {
+            body.run();
+        } catch (RuntimeException e) {
+            fail("ended by " + e);
+        }
+        if (checks == before) {
+            fail("nothing was checked");
+        }
+        test = "";
     }
 
     static void due(String what, long got, long want) {
@@ -15,6 +38,10 @@ final class Check {
         if (got != want) {
             fail(what + " answered " + got + ", due is " + want);
         }
+    }
+
+    static void due(String what, boolean got, boolean want) {
+        due(what, got == want);
     }
 
     static void due(String what, boolean holds) {
@@ -45,7 +72,7 @@ final class Check {
     static void fail(String message) {
         wrong++;
         if (wrong <= 50) {
-            System.out.println(message);
+            System.out.println(test + message);
         }
     }
 
@@ -54,7 +81,8 @@ final class Check {
     }
 
     static void end(String name) {
-        System.out.println(name + ": " + checks + " checks, " + wrong + " not as due");
+        String tests = NAMES.isEmpty() ? "" : NAMES.size() + " named tests, ";
+        System.out.println(name + ": " + tests + checks + " checks, " + wrong + " not as due");
         if (wrong != 0) {
             System.exit(1);
         }
